@@ -36,6 +36,9 @@ public final class ReadFromRight {
 
     /** A refusal is told so far below where any number may be an answer. */
     private static final int ANY_NUMBER = -100000;
+    private static final int LEAST_INT = -2147483648;
+    private static final int MOST_INT = 2147483647;
+    private static final long LEAST_LONG = -9223372036854775808L;
 
     private final Law law = new Law();
     private final Goods goods = new Goods();
@@ -234,7 +237,7 @@ public final class ReadFromRight {
 
     public long share(int partner, int what) {
         if (!isPartner(partner) || !within(what, 0, 1)) {
-            return Long.MIN_VALUE - BAD;
+            return LEAST_LONG - BAD;
         }
         long brought = partners.broughtInAllOrders(partner);
         int common = Partners.commonWithOrders(brought);
@@ -313,12 +316,12 @@ public final class ReadFromRight {
 
     public int get(int s, int form, int i) {
         if (!isSheet(s) || !isForm(form)) {
-            return Integer.MIN_VALUE;
+            return LEAST_INT;
         }
         int found = sheets[s].findingAt(form, i);
         if (found != NO_FINDING) {
             finding(found);
-            return Integer.MIN_VALUE;
+            return LEAST_INT;
         }
         return sheets[s].itemAt(i);
     }
@@ -727,7 +730,7 @@ public final class ReadFromRight {
                 return;
             }
             reckonBills();
-            least = goods.wantedBits() == 0 ? 0 : Integer.MAX_VALUE;
+            least = goods.wantedBits() == 0 ? 0 : MOST_INT;
             fewest = 0;
             bitsOfLeast = 0;
             most = 0;
@@ -770,7 +773,7 @@ public final class ReadFromRight {
         /** One bill has the lowest of the GOODS, so that no parting is tried twice; the others have the rest. */
         private void partSet(int bits, int bills) {
             int free = bits & (bits - 1);
-            int low = Integer.MAX_VALUE;
+            int low = MOST_INT;
             int high = 0;
             for (int rest = free; rest > 0; rest = (rest - 1) & free) {
                 if (Integer.bitCount(rest) >= bills - 1) {

@@ -5,6 +5,7 @@ public final class DigestTest {
     public static void main(String[] args) {
         promise28DigestOfNothing();
         promise28DigestOfGoods();
+        promise28DigestToAllBases();
         promise28DigestChangesNothing();
         CHECK.end();
     }
@@ -18,26 +19,33 @@ public final class DigestTest {
         String[] texts = {"12w;9w;9t", "100w;10t;1t;999w", "7t", "0", "12w;", "990w;15t;15t;301w;88t"};
         for (String text : texts) {
             for (int base : new int[] {10, 2, 21, 36}) {
-                for (int noughts = 0; noughts <= 1; noughts++) {
-                    ReadFromRight x = Check.withGoods(text);
-                    PlainModel m = new PlainModel();
-                    for (char b : text.toCharArray()) {
-                        m.type(b);
-                    }
-                    x.set(0, base);
-                    m.set(0, base);
-                    x.set(1, noughts);
-                    m.set(1, noughts);
-                    x.set(2, 7);
-                    m.set(2, 7);
-                    x.set(3, 3);
-                    m.set(3, 3);
-                    x.partner(1, 2);
-                    m.partner(1, 2);
-                    CHECK.due("digest() of " + text + " to " + base, x.digest(), m.digest());
-                }
+                compare(text, base, 0);
+                compare(text, base, 1);
             }
         }
+    }
+
+    private static void promise28DigestToAllBases() {
+        for (int base = 2; base <= 36; base++) {
+            compare("31w;42t", base, 0);
+            compare("61w;83t", base, 1);
+        }
+    }
+
+    private static void compare(String text, int base, int noughts) {
+        ReadFromRight x = Check.withGoods(text);
+        PlainModel m = new PlainModel();
+        for (char b : text.toCharArray()) {
+            m.type(b);
+        }
+        int[] law = {base, noughts, 7, 3};
+        for (int what = 0; what < 4; what++) {
+            x.set(what, law[what]);
+            m.set(what, law[what]);
+        }
+        x.partner(1, 2);
+        m.partner(1, 2);
+        CHECK.due("digest() of " + text + " to " + base + ", noughts " + noughts, x.digest(), m.digest());
     }
 
     private static void promise28DigestChangesNothing() {

@@ -13,6 +13,9 @@ public final class LanguageTest {
         "\\bpackage\\b", "Exact\\b", "\\bfloat\\b", "\\bdouble\\b", "\\bstatic\\s*\\{", "\\bThread\\b",
         "\\bSystem\\.(?!arraycopy\\b)", "\\bRandom\\b", "\\bhashCode\\b", "\\btoString\\b", "@"};
 
+    private static final List<String> LIBRARY = List.of(
+        "Integer.bitCount", "Math.min", "Math.max", "Math.abs", "Arrays.fill", "System.arraycopy");
+
     public static void main(String[] args) throws Exception {
         String source = Files.readString(Path.of("src/main/java/ReadFromRight.java"));
         for (char sign : source.toCharArray()) {
@@ -25,6 +28,10 @@ public final class LanguageTest {
         Matcher imports = Pattern.compile("import ([^;]*);").matcher(code);
         while (imports.find()) {
             CHECK.isTrue("import of " + imports.group(1), imports.group(1).equals("java.util.Arrays"));
+        }
+        Matcher library = Pattern.compile("\\b(?:Integer|Long|Math|Arrays|String|System)\\.\\w+").matcher(code);
+        while (library.find()) {
+            CHECK.isTrue("library: " + library.group(), LIBRARY.contains(library.group()));
         }
         Matcher statics = Pattern.compile("\\bstatic (?!final )(?!class)[^(;=]*[;=]").matcher(code);
         CHECK.isTrue("static fields are final", !statics.find());

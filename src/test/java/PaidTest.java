@@ -125,6 +125,10 @@ public final class PaidTest {
         bought("nothing has to be bought", x, 0, 0, 0, 61 + 5);
         bought("no goods", new ReadFromRight(), 0, 0, 0, 0);
         bought("a fault", Check.withGoods("7w;"), 0, 0, 0, 0);
+        ReadFromRight y = Check.withGoods("12w");
+        bought("as long as it is there", y, 21, 1, 1, 21);
+        y.wipe();
+        bought("wiped", y, 0, 0, 0, 0);
     }
 
     private static void promise12Added() {
@@ -135,6 +139,7 @@ public final class PaidTest {
         CHECK.due("added(11): up to 100", x.added(11), 89);
         CHECK.due("added(100): stays", x.added(100), 0);
         CHECK.due("added(101): up to 200", x.added(101), 99);
+        CHECK.due("added(9900): 10000 is 100 more", x.added(9900), 0);
         CHECK.due("added(9901): 10000 is 99 more", x.added(9901), 99);
         CHECK.due("added(9999)", x.added(9999), 1);
         CHECK.due("added(-1)", x.added(-1), ReadFromRight.BAD);

@@ -42,6 +42,10 @@ public final class RoundsAndFiguresTest {
         rounds(x, 19, 1, 10, 0, -1);
         x.set(1, 1);
         rounds(x, 120, 0, 200, 120, 2);
+        x.set(0, 2);
+        CHECK.due("to 2: it comes round with the last", x.rounds(4290, 7, 2), 200);
+        CHECK.due("to 2: it would come round with the 201st", x.rounds(8723, 86, 2), ReadFromRight.NONE);
+        CHECK.due("to 2: 200 at most", x.rounds(8723, 86, 0), 200);
     }
 
     private static void promise15RoundsRefused() {
@@ -87,6 +91,9 @@ public final class RoundsAndFiguresTest {
         x.set(1, 1);
         figures("to 2, noughts stay", x, 2, 2, 0, 0, 2);
         figures("to 2, noughts stay", x, 3, 4, 0, 0, 4);
+        x.set(1, 0);
+        figures("to 2, the law is another between like calls", x, 3, 2, 2, 0, 4);
+        x.set(1, 1);
         x.set(0, 3);
         // 10 11 12 20 21 22 to 3.
         figures("to 3, noughts stay", x, 2, 4, 1, 1, 5);
