@@ -1,3 +1,6 @@
+import java.util.function.Supplier;
+import java.util.function.ToLongFunction;
+
 /** Counts answers that are not as due, and ends a test with exit code 1 if there was one. */
 final class Check {
     private int wrong = 0;
@@ -17,6 +20,19 @@ final class Check {
             wrong++;
             System.out.println("not so: " + what);
         }
+    }
+
+    /**
+     * A refused call answers as due, and changes nothing, as told by a twin that is not called so; a FINDING (0: it is
+     * none) changes count() 8.
+     */
+    void refused(String call, Supplier<ReadFromRight> town, ToLongFunction<ReadFromRight> act, long want, int finding) {
+        ReadFromRight x = town.get();
+        ReadFromRight twin = town.get();
+        due(call, act.applyAsLong(x), want);
+        int before = twin.count(8);
+        due(call + ": count(8) behind it", x.count(8), finding == 0 ? before : finding);
+        isTrue(call + " changes nothing", Town.whole(x).equals(Town.whole(twin)));
     }
 
     void end() {

@@ -455,6 +455,15 @@ final class PlainModel {
         return sheets.set(s, null).size();
     }
 
+    /** For those who look into it only: no call of the face. */
+    int size(int s) {
+        return sheets.get(s) == null ? 0 : sheets.get(s).size();
+    }
+
+    int form(int s) {
+        return forms[s];
+    }
+
     private int lookAt(int s, int form, int i) {
         if (s < 0 || s > 3 || form < 0 || form > 2) {
             return -2;

@@ -2,8 +2,9 @@ import java.util.Random;
 
 /** Runs of calls on fresh objects, with good and bad arguments, held against the plain model; the seed is told. */
 public final class RandomRunsTest {
-    private static final int RUNS = 220;
-    private static final int CALLS = 150;
+    private static final int RUNS = 500;
+    /** Then all items are asked for, of four full SHEETS perhaps: an object is used for at most 512 calls. */
+    private static final int CALLS = 240;
     private static final int[] EDGES = {Integer.MIN_VALUE, -100, -2, -1, 4, 8, 61, 256, 1023, 10000, Integer.MAX_VALUE};
 
     private final Random random;
@@ -11,6 +12,7 @@ public final class RandomRunsTest {
     private final String run;
     private final ReadFromRight x = new ReadFromRight();
     private final PlainModel m = new PlainModel();
+    private int calls = 0;
 
     private RandomRunsTest(int seed, Check check) {
         random = new Random(seed);
@@ -23,10 +25,11 @@ public final class RandomRunsTest {
         for (int seed = 0; seed < RUNS; seed++) {
             RandomRunsTest one = new RandomRunsTest(seed, check);
             one.typeGoods();
-            for (int call = 0; call < CALLS; call++) {
+            while (one.calls < CALLS) {
                 one.callOne();
             }
             one.compareAll();
+            check.isTrue(one.run + "at most 512 calls, not " + one.calls, one.calls <= 512);
         }
         check.end();
     }
@@ -64,6 +67,7 @@ public final class RandomRunsTest {
     }
 
     private void due(String call, long got, long want) {
+        calls++;
         check.due(run + call, got, want);
     }
 
@@ -238,11 +242,11 @@ public final class RandomRunsTest {
     private void compareAll() {
         due("count(8)", x.count(8), m.count(8));
         for (int s = 0; s < 4; s++) {
-            for (int form = 0; form < 3; form++) {
-                for (int i = 0; i < 60; i++) {
-                    due("get(" + s + ", " + form + ", " + i + ")", x.get(s, form, i), m.get(s, form, i));
-                }
+            for (int i = 0; i < m.size(s); i++) {
+                int form = m.form(s);
+                due("get(" + s + ", " + form + ", " + i + ")", x.get(s, form, i), m.get(s, form, i));
             }
+            due("lose(" + s + ")", x.lose(s), m.lose(s));
         }
         if (Math.pow(m.count(7) + 1, m.count(0)) < 100000) {
             due("digest()", x.digest(), m.digest());

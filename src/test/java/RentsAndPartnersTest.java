@@ -81,10 +81,10 @@ public final class RentsAndPartnersTest {
     }
 
     private static void promise18SharesTogether() {
-        ReadFromRight x = Check.withGoods("123w;45t;9w;990t;17w;8t;77w;301t");
-        Check.fill(x, 0, 0, 0, 1, 2, 3, 3, 2, 1, 0);
-        CHECK.due("read(0)", x.read(0), 8);
         for (int base = 2; base <= 36; base++) {
+            ReadFromRight x = Check.withGoods("123w;45t;9w;990t;17w;8t;77w;301t");
+            Check.fill(x, 0, 0, 0, 1, 2, 3, 3, 2, 1, 0);
+            CHECK.due("read(0)", x.read(0), 8);
             x.set(0, base);
             long all = 0;
             for (int partner = 0; partner < 4; partner++) {

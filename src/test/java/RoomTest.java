@@ -15,7 +15,7 @@ public final class RoomTest {
         long start = memory.getCurrentThreadAllocatedBytes();
         ReadFromRight x = new ReadFromRight();
         long made = memory.getCurrentThreadAllocatedBytes();
-        callAll(x, 40);
+        callAll(x, 30);
         long called = memory.getCurrentThreadAllocatedBytes();
         check.isTrue("an object has room for itself: " + (made - start), made - start <= MOST_BYTES_OF_OBJECT);
         check.isTrue("calls make nothing: " + (called - made), called - made <= MOST_BYTES_OF_CALLS);
