@@ -8,6 +8,7 @@ public final class GoodsAndLawEdgesTest {
         promise1AllSheetsAreLostAtFirst();
         promise1LawAndPartnersAtFirst();
         promise1ObjectsShareNothing();
+        promise1UsedFor512Calls();
         promise2EachByteIsTaken();
         promise2FiftyBytesAndNotOneMore();
         promise2FiftyAgainBehindWipe();
@@ -82,6 +83,21 @@ public final class GoodsAndLawEdgesTest {
         CHECK.due("digest() as of a new one", new ReadFromRight().digest(), -8397272453921907114L);
     }
 
+    /** The last calls that an object is promised for answer as the first ones do. */
+    private static void promise1UsedFor512Calls() {
+        ReadFromRight x = Check.withGoods("12w;9w;9t");
+        long first = x.digest();
+        for (int calls = 10; calls < 508; calls += 3) {
+            x.set(0, 2 + calls % 35);
+            x.rounds(9999, calls, 0);
+            x.lose(calls % 4);
+        }
+        CHECK.due("the 509th: set(0, 10)", x.set(0, 10), 2 + 505 % 35);
+        CHECK.due("the 510th: bought(0)", x.bought(0), 3);
+        CHECK.due("the 511th: count(8)", x.count(8), 1);
+        CHECK.due("the 512th: digest()", x.digest(), first);
+    }
+
     private static void promise2EachByteIsTaken() {
         for (int b = 0; b <= 255; b++) {
             ReadFromRight x = new ReadFromRight();
@@ -149,6 +165,10 @@ public final class GoodsAndLawEdgesTest {
         CHECK.due("ahead: bought(0)", x.bought(0), 21);
         CHECK.due("ahead: bill(3, 1)", x.bill(3, 1), 753);
         x.wipe();
+        for (int what = 0; what <= 3; what++) {
+            CHECK.due("wiped: bought(" + what + ")", x.bought(what), 0);
+        }
+        CHECK.due("wiped: count(3)", x.count(3), 0);
         x.type('9');
         CHECK.due("the old text does not go on behind the new one: fault()", x.fault(), 1);
         x.type('t');

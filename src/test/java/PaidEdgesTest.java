@@ -212,6 +212,15 @@ public final class PaidEdgesTest {
         bought("the FEE is for bills that there are", town("12t", 10, 0, 99, 4), 0, 0, 0, 120);
         bought("eight that may be thrown in", town("1t;1t;1t;1t;1t;1t;1t;1t", 10, 0, 99, 4), 0, 0, 0, 404);
         bought("a FAULT", town("12w;x", 10, 0, 99, 4), 0, 0, 0, 0);
+        ReadFromRight x = town("10w;100w", 10, 0, 0, 4);
+        bought("wanted ones, ahead", x, 2, 2, 3, 11);
+        x.type(';');
+        bought("none, as there is a FAULT by now", x, 0, 0, 0, 0);
+        Check.typeAll(x, "90t");
+        bought("there are three by now", x, 2, 1, 7, 92);
+        x.wipe();
+        Check.typeAll(x, "12t");
+        bought("none is wanted by now", x, 0, 0, 0, 21);
     }
 
     private static void promise11AllWantedGoodsAreBought() {

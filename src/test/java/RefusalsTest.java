@@ -10,7 +10,8 @@ public final class RefusalsTest {
     private static final Check CHECK = new Check();
     private static final int LEAST = Integer.MIN_VALUE;
     private static final int MOST = Integer.MAX_VALUE;
-    private static final int BAD = -2, NOT = -3, FULL = -4, NULL = -11, INDEX = -12, CAST = -13, STORE = -14, SIZE = -15;
+    private static final int BAD = -2, NOT = -3, FULL = -4;
+    private static final int NULL = -11, INDEX = -12, CAST = -13, STORE = -14, SIZE = -15;
     private static final int[] SHEETS = {0, 3};
     private static final int[] FORMS = {0, 2};
     private static final int[] NUMBERS = {0, 9999};

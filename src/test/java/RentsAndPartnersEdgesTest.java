@@ -77,6 +77,11 @@ public final class RentsAndPartnersEdgesTest {
         // 12 is 21 by itself, and no two parts are more.
         CHECK.due("the most with a month of 0: rent(12, 2, 1)", x.rent(12, 2, 1), 21);
         CHECK.due("the most with months of 0: rent(19, 6, 1)", x.rent(19, 6, 1), 91);
+        // To 2, noughts fall off: 2 is 1 and 6 is 3, so that parts of 1 are the most.
+        ReadFromRight y = town("", 2, 0);
+        rent(y, 2, 1, 1, 1);
+        rent(y, 2, 2, 1, 2);
+        rent(y, 6, 6, 2, 6);
     }
 
     private static void promise17MoreMonthsAreNeverWorse() {

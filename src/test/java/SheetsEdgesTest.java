@@ -371,7 +371,8 @@ public final class SheetsEdgesTest {
 
     private static void promise28EmptyFullAndWithAFault() {
         CHECK.due("digest() of a new one", new ReadFromRight().digest(), -8397272453921907114L);
-        Town.all().forEach((name, town) -> CHECK.due("digest(), " + name, town.get().digest(), digestByCalls(town.get())));
+        Town.all().forEach((name, town) ->
+            CHECK.due("digest(), " + name, town.get().digest(), digestByCalls(town.get())));
         for (int base = 2; base <= 36; base++) {
             for (int noughts = 0; noughts <= 1; noughts++) {
                 ReadFromRight x = Check.withGoods("12w;9t;109w;20t");
